@@ -657,7 +657,6 @@ public final class BallBoxes {
                 return NONE;
             }
             lengths[size] = 0;
-            riggings[size] = 0;
             size++;
             return size - 1;
         }
