@@ -498,9 +498,9 @@ public final class BallBoxes {
             int counted = 0;
             int stay = 0;
             int k = 0;
-            while (k < size) {
+            while (k < size && k < BOXES) {
                 boolean ball = left[k] != 0;
-                boolean emptyNext = k + 1 >= size || left[k + 1] == 0;
+                boolean emptyNext = k + 1 >= size || k + 1 >= BOXES || left[k + 1] == 0;
                 if (ball && emptyNext) {
                     counted++;
                     k += 2;
@@ -563,13 +563,13 @@ public final class BallBoxes {
         }
 
         void addToRiggings(int r, int t) {
-            for (int i = 0; isString(i); i++) {
+            for (int i = 0; i < size && i < BOXES; i++) {
                 riggings[i] += t * Math.min(r, lengths[i]);
             }
         }
 
         boolean haveRoomBehind(int boxes) {
-            for (int i = 0; isString(i); i++) {
+            for (int i = 0; i < size && i < BOXES; i++) {
                 if (riggings[i] > roomLeft(lengths[i], boxes)) {
                     return false;
                 }
@@ -578,7 +578,7 @@ public final class BallBoxes {
         }
 
         void sort() {
-            for (int end = 1; isString(end); end++) {
+            for (int end = 1; end < size; end++) {
                 for (int i = end; i > 0 && isBehind(i - 1, i); i--) {
                     swap(i - 1, i);
                 }
@@ -634,7 +634,7 @@ public final class BallBoxes {
 
         private int longestTight(int boxes) {
             int found = NONE;
-            for (int i = 0; isString(i); i++) {
+            for (int i = 0; i < size && i < BOXES; i++) {
                 if (isTight(i, boxes) && (found == NONE || lengths[i] > lengthOf(found))) {
                     found = i;
                 }
@@ -644,7 +644,7 @@ public final class BallBoxes {
 
         private int shortestTight(int boxes) {
             int found = NONE;
-            for (int i = 0; isString(i); i++) {
+            for (int i = 0; i < size && i < BOXES; i++) {
                 if (isTight(i, boxes) && (found == NONE || lengths[i] < lengthOf(found))) {
                     found = i;
                 }
