@@ -240,11 +240,25 @@ final class Model {
         if (n < 1 || n > 12 || m < 0 || m >= n / 2.0 || r < 1 || r > 50 || p < 0) return BAD;
         int found = 0;
         for (int bits = 0; bits < 1 << n; bits++) {
-            boolean[] boxes = new boolean[n];
-            for (int k = 0; k < n; k++) boxes[k] = (bits >> k & 1) != 0;
+            boolean[] boxes = ringOf(n, bits);
             if (balls(boxes) == m && (p == 0 || periodOf(boxes, r) == p)) found++;
         }
         return found;
+    }
+
+    /** How many of all rings have each period; there is none of these with a period above 20000. */
+    static int[] periods(int n, int m, int r) {
+        int[] with = new int[20001];
+        for (int bits = 0; bits < 1 << n; bits++) {
+            if (Integer.bitCount(bits) == m) with[periodOf(ringOf(n, bits), r)]++;
+        }
+        return with;
+    }
+
+    private static boolean[] ringOf(int n, int bits) {
+        boolean[] boxes = new boolean[n];
+        for (int k = 0; k < n; k++) boxes[k] = (bits >> k & 1) != 0;
+        return boxes;
     }
 
     private static int periodOf(boolean[] start, int r) {

@@ -17,23 +17,15 @@ public final class RingTest {
         DUE.end();
     }
 
-    private static BallBoxes of(String boxes) {
-        BallBoxes x = new BallBoxes();
-        for (int k = 0; k < boxes.length(); k++) {
-            if (boxes.charAt(k) == '1') x.set(k, true);
-        }
-        return x;
-    }
-
-    private static BallBoxes ringOf(String boxes) {
-        BallBoxes x = of(boxes);
+    private static Boxes ringOf(String boxes) {
+        Boxes x = Boxes.of(boxes);
         int balls = boxes.replace("0", "").length();
         DUE.is("ring of " + boxes, x.ring(0, boxes.length()), balls);
         isRing("ring of " + boxes, x, boxes);
         return x;
     }
 
-    private static void isRing(String when, BallBoxes x, String boxes) {
+    private static void isRing(String when, Boxes x, String boxes) {
         for (int k = 0; k < boxes.length(); k++) DUE.is(when + ": ringAt(" + k + ")", x.ringAt(k), boxes.charAt(k) - '0');
         for (int box : new int[] {-1, boxes.length(), 64, MIN, MAX}) DUE.is(when + ": ringAt(" + box + ")", x.ringAt(box), -2);
         DUE.is(when + ": count(1)", x.count(1), boxes.length());
@@ -41,7 +33,7 @@ public final class RingTest {
     }
 
     private static void ring() {
-        BallBoxes x = of("0".repeat(200) + "1000110" + "0".repeat(33));
+        Boxes x = Boxes.of("0".repeat(200) + "1000110" + "0".repeat(33));
         DUE.is("ring(200, 40)", x.ring(200, 40), 3);
         isRing("ring(200, 40)", x, "1000110" + "0".repeat(33));
         DUE.is("ring(201, 6)", x.ring(201, 6), 2);
@@ -55,7 +47,7 @@ public final class RingTest {
     }
 
     private static void ringRefused() {
-        BallBoxes x = ringOf("0100");
+        Boxes x = ringOf("0100");
         x.set(0, true);
         x.set(1, true);
         int[][] bad = {
@@ -69,7 +61,7 @@ public final class RingTest {
         isRing("refusals change nothing", x, "0100");
         DUE.is("2 balls of 5", x.ring(0, 5), 2);
         DUE.is("1 ball of 3", x.ring(1, 3), 1);
-        BallBoxes many = of("10".repeat(19) + "00");
+        Boxes many = Boxes.of("10".repeat(19) + "00");
         DUE.is("19 balls of 40", many.ring(0, 40), 19);
         many.set(39, true);
         DUE.is("20 balls of 40", many.ring(0, 40), -3);
@@ -77,7 +69,7 @@ public final class RingTest {
     }
 
     private static void turn() {
-        BallBoxes x = ringOf("11001000");
+        Boxes x = ringOf("11001000");
         DUE.is("turn(1)", x.turn(1), 0);
         isRing("turn(1)", x, "01100100");
         DUE.is("turn(2)", x.turn(2), 0);
@@ -85,25 +77,25 @@ public final class RingTest {
         for (int r : new int[] {0, -1, 51, MIN, MAX}) DUE.is("turn(" + r + ")", x.turn(r), -2);
         isRing("refused", x, "00011010");
         DUE.is("a turn is no step", x.count(4), 0);
-        BallBoxes first = new BallBoxes();
+        Boxes first = new Boxes();
         DUE.is("turn(50) of the first ring", first.turn(50), 0);
         isRing("turn(50) of the first ring", first, "0");
     }
 
     private static void turnOverTheEnd() {
-        BallBoxes x = ringOf("00011");
+        Boxes x = ringOf("00011");
         DUE.is("turn(1): taken at 3, left nowhere, 4 stays", x.turn(1), 1);
         isRing("turn(1)", x, "10001");
         DUE.is("turn(2)", x.turn(2), 1);
         isRing("turn(2)", x, "01100");
-        BallBoxes y = ringOf("0000111");
+        Boxes y = ringOf("0000111");
         DUE.is("turn(2) of three", y.turn(2), 2);
         isRing("turn(2) of three", y, "1100001");
-        BallBoxes z = ringOf("0000111");
+        Boxes z = ringOf("0000111");
         DUE.is("turn(50) of three", z.turn(50), 3);
         isRing("turn(50) of three", z, "1110000");
         // the first round from box 0 takes that ball itself, the second begins with one
-        BallBoxes w = ringOf("1000010");
+        Boxes w = ringOf("1000010");
         DUE.is("two apart", w.turn(3), 0);
         isRing("two apart", w, "0100001");
         DUE.is("over the end", w.turn(3), 1);
@@ -111,7 +103,7 @@ public final class RingTest {
     }
 
     private static void turnByRooms() {
-        BallBoxes x = ringOf("1".repeat(19) + "0".repeat(21));
+        Boxes x = ringOf("1".repeat(19) + "0".repeat(21));
         DUE.is("turn(50)", x.turn(50), 0);
         isRing("turn(50)", x, "0".repeat(19) + "1".repeat(19) + "00");
         DUE.is("turn(19)", x.turn(19), 17);
@@ -119,49 +111,56 @@ public final class RingTest {
     }
 
     private static void period() {
-        BallBoxes x = ringOf("11001000");
+        Boxes x = ringOf("11001000");
         int[] due = {8, 16, 16};
         for (int r = 1; r <= 3; r++) DUE.is("period(" + r + ")", x.period(r), due[r - 1]);
         DUE.is("period(50)", x.period(50), 16);
         isRing("the ring stays", x, "11001000");
         for (int r : new int[] {0, -1, 51, MIN, MAX}) DUE.is("period(" + r + ")", x.period(r), -2);
-        DUE.is("of the first ring", new BallBoxes().period(1), 1);
+        DUE.is("of the first ring", new Boxes().period(1), 1);
         DUE.is("of no balls", ringOf("0000").period(3), 1);
         DUE.is("of like parts", ringOf("100100100").period(1), 3);
         DUE.is("of one ball", ringOf("0".repeat(39) + "1").period(7), 40);
         DUE.is("two balls at 40 boxes go by 2", ringOf("11" + "0".repeat(38)).period(2), 20);
         DUE.is("three balls at 40 boxes go by 3", ringOf("111" + "0".repeat(37)).period(3), 40);
-        turnedSoOften(ringOf("1101000100010000"), 2);
-        turnedSoOften(ringOf("1101100100001000001"), 3);
+        turnedSoOften("1101000100010000", 2);
+        turnedSoOften("1101100100001000001", 3);
+        turnedSoOften("00011", 1);
     }
 
-    private static void turnedSoOften(BallBoxes x, int r) {
-        StringBuilder was = new StringBuilder();
-        for (int k = 0; k < x.count(1); k++) was.append(x.ringAt(k));
-        int period = x.period(r);
+    /** Turned one by one, each time as the ring of another object, since a period may be longer than one's calls. */
+    private static void turnedSoOften(String was, int r) {
+        int period = ringOf(was).period(r);
         DUE.holds("a period of " + was, period > 1);
+        String now = was;
         for (int t = 1; t <= period; t++) {
-            x.turn(r);
-            boolean same = true;
-            for (int k = 0; k < was.length(); k++) same &= x.ringAt(k) == was.charAt(k) - '0';
-            DUE.holds(was + " as it was behind " + t + " of " + period, same == (t == period));
+            now = turned(now, r);
+            DUE.holds(was + " as it was behind " + t + " of " + period, now.equals(was) == (t == period));
         }
+    }
+
+    private static String turned(String ring, int r) {
+        Boxes x = ringOf(ring);
+        x.turn(r);
+        StringBuilder then = new StringBuilder();
+        for (int k = 0; k < ring.length(); k++) then.append(x.ringAt(k));
+        return then.toString();
     }
 
     /** Rings found by search whose periods lie nearest to 20000 on both sides: 19800 and 20007. */
     private static void periodSpent() {
-        BallBoxes below = ringOf("0000000000001110000001111100110001101000");
+        Boxes below = ringOf("0000000000001110000001111100110001101000");
         DUE.is("a period just below 20000", below.period(8), 19800);
         String beyond = "111111100000110100000111111000001100010";
-        BallBoxes x = ringOf(beyond);
+        Boxes x = ringOf(beyond);
         DUE.is("a period just beyond 20000", x.period(8), -5);
         isRing("the ring stays", x, beyond);
         DUE.is("by room 1 it is not", x.period(1), 39);
     }
 
     private static void rings() {
-        DUE.is("rings(5, 2, 1, 0)", new BallBoxes().rings(5, 2, 1, 0), 10);
-        BallBoxes x = ringOf("010");
+        DUE.is("rings(5, 2, 1, 0)", new Boxes().rings(5, 2, 1, 0), 10);
+        Boxes x = ringOf("010");
         for (int r : new int[] {1, 2, 50}) {
             DUE.is("one box", x.rings(1, 0, r, 1), 1);
             DUE.is("one box, all", x.rings(1, 0, r, 0), 1);
@@ -185,7 +184,7 @@ public final class RingTest {
     }
 
     private static void ringsWrong() {
-        BallBoxes x = new BallBoxes();
+        Boxes x = new Boxes();
         int[][] bad = {
             {0, 0, 1, 0}, {-1, 0, 1, 0}, {13, 1, 1, 0}, {MIN, 0, 1, 0}, {MAX, 1, 1, 0}, {1, 1, 1, 0}, {2, 1, 1, 0},
             {6, 3, 1, 0}, {12, 6, 1, 0}, {12, 7, 1, 0}, {5, 3, 1, 0}, {5, -1, 1, 0}, {5, MIN, 1, 0}, {5, MAX, 1, 0},
@@ -207,7 +206,7 @@ public final class RingTest {
                 int all = 0;
                 for (int bits = 0; bits < 1 << n; bits++) {
                     if (Integer.bitCount(bits) != m) continue;
-                    BallBoxes x = new BallBoxes();
+                    Boxes x = new Boxes();
                     for (int k = 0; k < n; k++) x.set(k, (bits >> k & 1) != 0);
                     x.ring(0, n);
                     int period = x.period(r);
@@ -215,7 +214,7 @@ public final class RingTest {
                     with[period]++;
                     all++;
                 }
-                BallBoxes x = new BallBoxes();
+                Boxes x = new Boxes();
                 DUE.is("all", x.rings(n, m, r, 0), all);
                 for (int p = 1; p < with.length; p++) DUE.is("rings(9, " + m + ", " + r + ", " + p + ")", x.rings(n, m, r, p), with[p]);
             }

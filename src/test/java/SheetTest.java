@@ -1,3 +1,6 @@
+import java.util.List;
+import java.util.function.Consumer;
+
 /** Promises 18 to 26: sheets, count, digest. */
 public final class SheetTest {
     private static final Due DUE = new Due("SheetTest");
@@ -24,33 +27,36 @@ public final class SheetTest {
         DUE.end();
     }
 
-    private static BallBoxes with(int s, int form, int... items) {
-        BallBoxes x = new BallBoxes();
+    private static Boxes with(int s, int form, int... items) {
+        Boxes x = new Boxes();
         fill(x, s, form, items);
         return x;
     }
 
-    private static void fill(BallBoxes x, int s, int form, int... items) {
+    private static void fill(Boxes x, int s, int form, int... items) {
         DUE.is("sheet", x.sheet(s, form, items.length), items.length);
         for (int i = 0; i < items.length; i++) DUE.is("put", x.put(s, form, i, items[i]), 1);
     }
 
-    private static void isSheet(String when, BallBoxes x, int s, int form, int... items) {
+    private static void isSheet(String when, Boxes x, int s, int form, int... items) {
         for (int i = 0; i < items.length; i++) DUE.is(when + ": get " + i, x.get(s, form, i), items[i]);
         DUE.is(when + ": one too many", x.get(s, form, items.length), MIN);
         DUE.is(when + ": INDEX", x.count(5), 2);
     }
 
     private static void sheet() {
-        BallBoxes x = new BallBoxes();
         for (int s = 0; s < 4; s++) {
             for (int form = 0; form < 3; form++) {
+                Boxes each = new Boxes();
                 for (int n : new int[] {0, 1, 100}) {
-                    DUE.is("sheet", x.sheet(s, form, n), n);
-                    isSheet("new", x, s, form, new int[n]);
+                    DUE.is("sheet", each.sheet(s, form, n), n);
+                    isSheet("new", each, s, form, new int[n]);
                 }
             }
         }
+        Boxes x = new Boxes();
+        DUE.is("sheet(0, 2, 100)", x.sheet(0, 2, 100), 100);
+        isSheet("a hundred", x, 0, 2, new int[100]);
         for (int s : NO_SHEETS) DUE.is("sheet(" + s + ", 0, 1)", x.sheet(s, 0, 1), -2);
         for (int form : NO_FORMS) DUE.is("sheet(0, " + form + ", 1)", x.sheet(0, form, 1), -2);
         for (int n : new int[] {101, MAX}) DUE.is("sheet(0, 0, " + n + ")", x.sheet(0, 0, n), -2);
@@ -63,7 +69,7 @@ public final class SheetTest {
     }
 
     private static void sheetIsNew() {
-        BallBoxes x = with(1, 2, 5, 6, 7);
+        Boxes x = with(1, 2, 5, 6, 7);
         DUE.is("a new one in its place", x.sheet(1, 2, 3), 3);
         isSheet("items are 0 again", x, 1, 2, 0, 0, 0);
         fill(x, 1, 2, 5, 6, 7);
@@ -77,7 +83,7 @@ public final class SheetTest {
     }
 
     private static void lose() {
-        BallBoxes x = with(3, 1, 4, 5);
+        Boxes x = with(3, 1, 4, 5);
         DUE.is("lose(3)", x.lose(3), 2);
         DUE.is("lose(3) again", x.lose(3), -11);
         DUE.is("NULL", x.count(5), 1);
@@ -92,15 +98,15 @@ public final class SheetTest {
     }
 
     private static void put() {
-        BallBoxes bytes = with(0, 0, 127, 128, 255, 256, -128, -129, MIN, MAX);
+        Boxes bytes = with(0, 0, 127, 128, 255, 256, -128, -129, MIN, MAX);
         isSheet("bytes", bytes, 0, 0, 127, -128, -1, 0, -128, 127, 0, -1);
-        BallBoxes shorts = with(1, 1, 32767, 32768, 65535, 65536, -32769, 70000, MIN, MAX);
+        Boxes shorts = with(1, 1, 32767, 32768, 65535, 65536, -32769, 70000, MIN, MAX);
         isSheet("shorts", shorts, 1, 1, 32767, -32768, -1, 0, 32767, 4464, 0, -1);
-        BallBoxes ints = with(2, 2, 32768, -65537, MIN, MAX, 0);
+        Boxes ints = with(2, 2, 32768, -65537, MIN, MAX, 0);
         isSheet("ints", ints, 2, 2, 32768, -65537, MIN, MAX, 0);
         DUE.is("over it", ints.put(2, 2, 4, 9), 1);
         isSheet("over it", ints, 2, 2, 32768, -65537, MIN, MAX, 9);
-        BallBoxes all = new BallBoxes();
+        Boxes all = new Boxes();
         all.sheet(3, 2, 100);
         DUE.is("item 99", all.put(3, 2, 99, 8), 1);
         DUE.is("item 99 then", all.get(3, 2, 99), 8);
@@ -108,7 +114,7 @@ public final class SheetTest {
     }
 
     private static void putRefused() {
-        BallBoxes x = with(0, 1, 7);
+        Boxes x = with(0, 1, 7);
         for (int s : NO_SHEETS) DUE.is("put(" + s + ", 1, 0, 1)", x.put(s, 1, 0, 1), -2);
         for (int form : NO_FORMS) DUE.is("put(0, " + form + ", 0, 1)", x.put(0, form, 0, 1), -2);
         DUE.is("BAD ahead of NULL", x.put(1, 3, 0, 1), -2);
@@ -126,7 +132,7 @@ public final class SheetTest {
     }
 
     private static void get() {
-        BallBoxes x = with(0, 1, 7);
+        Boxes x = with(0, 1, 7);
         for (int s : NO_SHEETS) DUE.is("get(" + s + ", 1, 0)", x.get(s, 1, 0), MIN);
         for (int form : NO_FORMS) DUE.is("get(0, " + form + ", 0)", x.get(0, form, 0), MIN);
         DUE.is("BAD tells no finding", x.count(5), 0);
@@ -146,7 +152,7 @@ public final class SheetTest {
     }
 
     private static void copy() {
-        BallBoxes x = with(0, 2, 1, 2, 3, 4, 5);
+        Boxes x = with(0, 2, 1, 2, 3, 4, 5);
         fill(x, 1, 2, 9, 9, 9);
         DUE.is("copy(0, 3, 1, 1, 2)", x.copy(0, 3, 1, 1, 2), 1);
         isSheet("target", x, 1, 2, 9, 4, 5);
@@ -162,7 +168,7 @@ public final class SheetTest {
     }
 
     private static void copyOverItself() {
-        BallBoxes x = with(0, 1, 1, 2, 3, 4, 5);
+        Boxes x = with(0, 1, 1, 2, 3, 4, 5);
         DUE.is("ahead", x.copy(0, 0, 0, 1, 4), 1);
         isSheet("ahead", x, 0, 1, 1, 1, 2, 3, 4);
         fill(x, 0, 1, 1, 2, 3, 4, 5);
@@ -173,7 +179,7 @@ public final class SheetTest {
     }
 
     private static void copyRefused() {
-        BallBoxes x = with(0, 2, 1, 2, 3);
+        Boxes x = with(0, 2, 1, 2, 3);
         fill(x, 1, 2, 7, 8);
         fill(x, 2, 1, 4, 5);
         for (int s : NO_SHEETS) {
@@ -204,7 +210,7 @@ public final class SheetTest {
     }
 
     private static void load() {
-        BallBoxes x = with(0, 2, 1, 0, -1, MAX, MIN, 2);
+        Boxes x = with(0, 2, 1, 0, -1, MAX, MIN, 2);
         for (int k = 0; k < 240; k++) x.set(k, true);
         DUE.is("load(0, 10)", x.load(0, 10), 6);
         int[] due = {1, 1, 0, 0, 1, 0, 1, 1};
@@ -226,7 +232,7 @@ public final class SheetTest {
         DUE.is("no items", x.load(2, 239), 0);
         DUE.is("row(0) behind none", x.row(0), 234);
         DUE.is("no move", x.count(4), 0);
-        BallBoxes hundred = new BallBoxes();
+        Boxes hundred = new Boxes();
         hundred.sheet(0, 1, 100);
         hundred.put(0, 1, 0, 1);
         hundred.put(0, 1, 99, 1);
@@ -239,7 +245,7 @@ public final class SheetTest {
 
     private static void write() {
         for (int form = 0; form < 3; form++) {
-            BallBoxes x = with(0, form, 5, 6, 7, 8);
+            Boxes x = with(0, form, 5, 6, 7, 8);
             for (int k : new int[] {2, 3, 5, 237, 239}) x.set(k, true);
             DUE.is("write(0, 2)", x.write(0, 2), 4);
             isSheet("write(0, 2)", x, 0, form, 1, 1, 0, 1);
@@ -249,7 +255,7 @@ public final class SheetTest {
             DUE.is("write(0, 239)", x.write(0, 239), 1);
             DUE.is("the row stays", x.row(0), 5);
         }
-        BallBoxes x = with(0, 0, 5);
+        Boxes x = with(0, 0, 5);
         for (int s : NO_SHEETS) DUE.is("write(" + s + ", 0)", x.write(s, 0), -2);
         for (int box : NO_BOXES) DUE.is("write(0, " + box + ")", x.write(0, box), -2);
         DUE.is("BAD ahead of NULL", x.write(1, -1), -2);
@@ -265,7 +271,7 @@ public final class SheetTest {
     }
 
     private static void findings() {
-        BallBoxes x = with(0, 0, 1);
+        Boxes x = with(0, 0, 1);
         DUE.is("digest has no findings", digestOf(x), x.digest());
         long before = x.digest();
         x.lose(1);
@@ -281,7 +287,7 @@ public final class SheetTest {
     }
 
     private static void count() {
-        BallBoxes x = new BallBoxes();
+        Boxes x = new Boxes();
         for (int k : new int[] {0, 1, 4}) x.set(k, true);
         x.ring(0, 9);
         x.set(8, true);
@@ -299,7 +305,7 @@ public final class SheetTest {
         for (int what : new int[] {-1, 6, MIN, MAX}) DUE.is("count(" + what + ")", x.count(what), -2);
     }
 
-    private static long digestOf(BallBoxes x) {
+    private static long digestOf(Boxes x) {
         long h = 17;
         for (int what = 0; what < 5; what++) h = 31 * h + x.count(what);
         for (int k = 0; k < 240; k++) h = 31 * h + x.at(k);
@@ -308,24 +314,16 @@ public final class SheetTest {
     }
 
     private static void digest() {
-        BallBoxes x = new BallBoxes();
-        DUE.is("of a new object", x.digest(), digestOf(x));
-        long last = x.digest();
-        for (int k : new int[] {0, 1, 239}) {
-            x.set(k, true);
-            DUE.is("a ball", x.digest(), digestOf(x));
-            DUE.holds("another", x.digest() != last);
+        List<Consumer<Boxes>> things = List.of(
+            x -> x.set(0, true), x -> x.set(1, true), x -> x.set(239, true), x -> x.ring(0, 40), x -> x.turn(2),
+            x -> x.strings(100), x -> x.set(239, false), x -> x.leap(1, 5));
+        long last = 0;
+        for (int n = 0; n <= things.size(); n++) {
+            Boxes x = new Boxes();
+            for (Consumer<Boxes> thing : things.subList(0, n)) thing.accept(x);
+            DUE.is("behind " + n, x.digest(), digestOf(x));
+            DUE.holds("another behind " + n, x.digest() != last);
             last = x.digest();
         }
-        x.ring(0, 40);
-        DUE.is("a ring", x.digest(), digestOf(x));
-        x.turn(2);
-        DUE.is("turned", x.digest(), digestOf(x));
-        x.strings(100);
-        DUE.is("strings", x.digest(), digestOf(x));
-        x.set(239, false);
-        x.leap(1, 5);
-        DUE.is("a leap", x.digest(), digestOf(x));
-        DUE.is("twice the same", x.digest(), x.digest());
     }
 }
