@@ -26,6 +26,17 @@ final class Boxes {
         return of(240 - boxes.length(), boxes);
     }
 
+    static Boxes withSheet(int s, int form, int... items) {
+        Boxes made = new Boxes();
+        made.fill(s, form, items);
+        return made;
+    }
+
+    void fill(int s, int form, int... items) {
+        sheet(s, form, items.length);
+        for (int i = 0; i < items.length; i++) put(s, form, i, items[i]);
+    }
+
     /** The text of a whole row that has these boxes from one on, and no other balls. */
     static String rowWith(int from, String boxes) {
         return "0".repeat(from) + boxes + "0".repeat(240 - from - boxes.length());

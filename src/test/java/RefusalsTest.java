@@ -163,10 +163,7 @@ public final class RefusalsTest {
         x.ring(60, RING.length());
         x.strings(75);
         x.leap(1, 0);
-        for (int s = 0; s < ITEMS.length; s++) {
-            x.sheet(s, s, ITEMS[s].length);
-            for (int i = 0; i < ITEMS[s].length; i++) x.put(s, s, i, ITEMS[s][i]);
-        }
+        for (int s = 0; s < ITEMS.length; s++) x.fill(s, s, ITEMS[s]);
         if (latestFinding == 1) x.lose(3);
         if (latestFinding == 4) x.copy(0, 0, 1, 0, 1);
         return x;

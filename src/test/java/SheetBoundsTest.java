@@ -49,17 +49,6 @@ public final class SheetBoundsTest {
         DUE.end();
     }
 
-    private static Boxes with(int s, int form, int... items) {
-        Boxes x = new Boxes();
-        fill(x, s, form, items);
-        return x;
-    }
-
-    private static void fill(Boxes x, int s, int form, int... items) {
-        DUE.is("sheet(" + s + ", " + form + ", " + items.length + ")", x.sheet(s, form, items.length), items.length);
-        for (int i = 0; i < items.length; i++) DUE.is("put", x.put(s, form, i, items[i]), 1);
-    }
-
     private static void isSheet(String what, Boxes x, int s, int form, int... items) {
         for (int i = 0; i < items.length; i++) DUE.is(what + ": item " + i, x.get(s, form, i), items[i]);
     }
@@ -107,7 +96,7 @@ public final class SheetBoundsTest {
     private static void sheetSize() {
         DUE.by("promise 18", "SIZE: below 0");
         for (int n : new int[] {-1, -100, MIN}) {
-            Boxes x = with(0, 1, 7);
+            Boxes x = Boxes.withSheet(0, 1, 7);
             isFinding("sheet(0, 1, " + n + ")", x, x.sheet(0, 1, n), SIZE);
             DUE.is("the one that was", x.get(0, 1, 0), 7);
             isFinding("sheet(1, 1, " + n + ")", x, x.sheet(1, 1, n), SIZE);
@@ -125,14 +114,14 @@ public final class SheetBoundsTest {
 
     private static void sheetZeroAtFirst() {
         DUE.by("promise 18", "A SHEET is a new row .. (0 at first)");
-        Boxes x = with(0, 2, 1, 2, 3);
+        Boxes x = Boxes.withSheet(0, 2, 1, 2, 3);
         DUE.is("anew", x.sheet(0, 2, 3), 3);
         isSheet("anew", x, 0, 2, 0, 0, 0);
-        fill(x, 0, 2, 1, 2, 3);
+        x.fill(0, 2, 1, 2, 3);
         x.sheet(0, 2, 1);
         x.sheet(0, 2, 3);
         isSheet("behind a shorter one", x, 0, 2, 0, 0, 0);
-        fill(x, 0, 2, 1, 2, 3);
+        x.fill(0, 2, 1, 2, 3);
         x.lose(0);
         x.sheet(0, 0, 100);
         isSheet("behind a lost one", x, 0, 0, new int[100]);
@@ -169,12 +158,12 @@ public final class SheetBoundsTest {
             {127, 128, 255, 256, -128, -129, 32767, -32768, -1, 0, -32768, 32767, -1, 0},
             v
         };
-        for (int form = 0; form <= 2; form++) isSheet("form " + form, with(form, form, v), form, form, due[form]);
+        for (int form = 0; form <= 2; form++) isSheet("form " + form, Boxes.withSheet(form, form, v), form, form, due[form]);
     }
 
     private static void putFirstAndLast() {
         DUE.by("promise 20", "Item i .. becomes v: 1");
-        Boxes x = with(0, 0, 1, 2, 3);
+        Boxes x = Boxes.withSheet(0, 0, 1, 2, 3);
         DUE.is("item 0", x.put(0, 0, 0, 8), 1);
         DUE.is("item 2", x.put(0, 0, 2, 9), 1);
         DUE.is("the same again", x.put(0, 0, 2, 9), 1);
@@ -183,7 +172,7 @@ public final class SheetBoundsTest {
 
     private static void putFindings() {
         DUE.by("promise 20", "BAD; NULL; CAST; INDEX");
-        Boxes x = with(1, 1, 7, 8);
+        Boxes x = Boxes.withSheet(1, 1, 7, 8);
         for (int s : NO_SHEETS) DUE.is("put(" + s + ", 1, 0, 1)", x.put(s, 1, 0, 1), BAD);
         for (int form : NO_FORMS) DUE.is("put(1, " + form + ", 0, 1)", x.put(1, form, 0, 1), BAD);
         DUE.is("no finding", x.count(5), 0);
@@ -196,7 +185,7 @@ public final class SheetBoundsTest {
 
     private static void putFirstThatFits() {
         DUE.by("promise 20", "Refusals, the first that fits");
-        Boxes x = with(1, 1, 7);
+        Boxes x = Boxes.withSheet(1, 1, 7);
         DUE.is("no such FORM of a lost one", x.put(0, 3, 0, 1), BAD);
         DUE.is("no such FORM, no such item", x.put(1, 3, 9, 1), BAD);
         DUE.is("no such SHEET, no such FORM, no such item", x.put(4, 3, 9, 1), BAD);
@@ -210,7 +199,7 @@ public final class SheetBoundsTest {
 
     private static void getLeastInt() {
         DUE.by("promise 21", "BAD: the least int");
-        Boxes x = with(0, 2, MIN);
+        Boxes x = Boxes.withSheet(0, 2, MIN);
         for (int s : NO_SHEETS) DUE.is("get(" + s + ", 2, 0)", x.get(s, 2, 0), MIN);
         for (int form : NO_FORMS) DUE.is("get(0, " + form + ", 0)", x.get(0, form, 0), MIN);
         DUE.is("an item that is the least int", x.get(0, 2, 0), MIN);
@@ -219,7 +208,7 @@ public final class SheetBoundsTest {
 
     private static void getFindings() {
         DUE.by("promise 21", "so are NULL, CAST, INDEX (count() 5 tells)");
-        Boxes x = with(1, 1, 7, 8);
+        Boxes x = Boxes.withSheet(1, 1, 7, 8);
         DUE.is("lost", x.get(0, 1, 0), MIN);
         DUE.is("count(5)", x.count(5), 1);
         for (int form : new int[] {0, 2}) {
@@ -237,7 +226,7 @@ public final class SheetBoundsTest {
 
     private static void getFirstThatFits() {
         DUE.by("promise 21", "Refusals, the first that fits");
-        Boxes x = with(1, 1, 7);
+        Boxes x = Boxes.withSheet(1, 1, 7);
         x.get(0, 3, 0);
         x.get(1, 3, 9);
         x.get(4, 1, 9);
@@ -255,17 +244,17 @@ public final class SheetBoundsTest {
 
     private static void copyAsTheyWere() {
         DUE.by("promise 22", "perhaps s, as they were");
-        Boxes ahead = with(0, 1, 1, 2, 3, 4, 5);
+        Boxes ahead = Boxes.withSheet(0, 1, 1, 2, 3, 4, 5);
         DUE.is("to a later item", ahead.copy(0, 0, 0, 1, 4), 1);
         isSheet("to a later item", ahead, 0, 1, 1, 1, 2, 3, 4);
-        Boxes back = with(0, 1, 1, 2, 3, 4, 5);
+        Boxes back = Boxes.withSheet(0, 1, 1, 2, 3, 4, 5);
         DUE.is("to an earlier item", back.copy(0, 1, 0, 0, 4), 1);
         isSheet("to an earlier item", back, 0, 1, 2, 3, 4, 5, 5);
         DUE.is("to itself", back.copy(0, 0, 0, 0, 5), 1);
         isSheet("to itself", back, 0, 1, 2, 3, 4, 5, 5);
         for (int form = 0; form <= 2; form++) {
-            Boxes other = with(2, form, 1, 2, -3);
-            fill(other, 3, form, 9, 9, 9);
+            Boxes other = Boxes.withSheet(2, form, 1, 2, -3);
+            other.fill(3, form, 9, 9, 9);
             DUE.is("to another sheet", other.copy(2, 1, 3, 0, 2), 1);
             isSheet("to another sheet", other, 3, form, 2, -3, 9);
             isSheet("from", other, 2, form, 1, 2, -3);
@@ -274,8 +263,8 @@ public final class SheetBoundsTest {
 
     private static void copyNone() {
         DUE.by("promise 22", "n items");
-        Boxes x = with(0, 2, 1, 2, 3);
-        fill(x, 1, 2, 7, 8);
+        Boxes x = Boxes.withSheet(0, 2, 1, 2, 3);
+        x.fill(1, 2, 7, 8);
         x.sheet(2, 2, 0);
         DUE.is("none, from the first on", x.copy(0, 0, 1, 0, 0), 1);
         DUE.is("none, from behind the last on", x.copy(0, 3, 1, 2, 0), 1);
@@ -309,8 +298,8 @@ public final class SheetBoundsTest {
 
     /** Ints: sheet 0 of three items, sheet 1 of two. */
     private static Boxes three() {
-        Boxes x = with(0, 2, 1, 2, 3);
-        fill(x, 1, 2, 7, 8);
+        Boxes x = Boxes.withSheet(0, 2, 1, 2, 3);
+        x.fill(1, 2, 7, 8);
         return x;
     }
 
@@ -334,8 +323,8 @@ public final class SheetBoundsTest {
         DUE.by("promise 22", "STORE: unlike FORMS");
         for (int form = 0; form <= 2; form++) {
             for (int other = 0; other <= 2; other++) {
-                Boxes x = with(0, form, 1);
-                fill(x, 1, other, 7);
+                Boxes x = Boxes.withSheet(0, form, 1);
+                x.fill(1, other, 7);
                 if (form == other) {
                     DUE.is("like FORMS", x.copy(0, 0, 1, 0, 1), 1);
                 } else {
@@ -349,8 +338,8 @@ public final class SheetBoundsTest {
 
     private static void copyFirstThatFits() {
         DUE.by("promise 22", "Refusals, the first that fits");
-        Boxes x = with(0, 2, 1);
-        fill(x, 1, 0, 7);
+        Boxes x = Boxes.withSheet(0, 2, 1);
+        x.fill(1, 0, 7);
         DUE.is("no such SHEET, a lost one", x.copy(4, 0, 2, 0, 1), BAD);
         DUE.is("a lost one, no such SHEET", x.copy(2, 0, 4, 0, 1), BAD);
         DUE.is("no such SHEET, not so many", x.copy(0, 9, -1, 9, 9), BAD);
@@ -368,22 +357,22 @@ public final class SheetBoundsTest {
         DUE.by("promise 23", "BALLS where items of a SHEET are above 0, none where they are not");
         int[][] items = {{1, 0, -1, 127, -128}, {1, 0, -1, 32767, -32768}, {1, 0, -1, MAX, MIN}};
         for (int form = 0; form <= 2; form++) {
-            Boxes none = with(0, form, items[form]);
+            Boxes none = Boxes.withSheet(0, form, items[form]);
             DUE.is("load(0, 7)", none.load(0, 7), 5);
             DUE.is("the row", none.rowText(), Boxes.rowWith(7, "10010"));
-            Boxes all = with(0, form, items[form]);
+            Boxes all = Boxes.withSheet(0, form, items[form]);
             for (int box = 0; box < 20; box++) all.set(box, true);
             DUE.is("load(0, 7) over balls", all.load(0, 7), 5);
             DUE.is("the row", all.rowText(), Boxes.rowWith(0, "1111111" + "10010" + "11111111"));
         }
-        Boxes cut = with(0, 0, 128, 256);
+        Boxes cut = Boxes.withSheet(0, 0, 128, 256);
         cut.load(0, 0);
         DUE.is("bytes that 128 and 256 became", cut.row(0), 0);
     }
 
     private static void loadBeyondTheRow() {
         DUE.by("promise 23", "INDEX: they go beyond BOX 239");
-        Boxes two = with(0, 0, 1, 1);
+        Boxes two = Boxes.withSheet(0, 0, 1, 1);
         DUE.is("load(0, 238)", two.load(0, 238), 2);
         DUE.is("the row", two.rowText(), Boxes.rowWith(238, "11"));
         two.empty();
@@ -414,7 +403,7 @@ public final class SheetBoundsTest {
 
     private static void loadFirstThatFits() {
         DUE.by("promise 23", "BAD: the SHEET, the BOX; NULL; INDEX");
-        Boxes x = with(0, 0, 1, 1);
+        Boxes x = Boxes.withSheet(0, 0, 1, 1);
         for (int s : NO_SHEETS) DUE.is("load(" + s + ", 0)", x.load(s, 0), BAD);
         for (int box : NO_BOXES) {
             DUE.is("load(0, " + box + ")", x.load(0, box), BAD);
@@ -432,7 +421,7 @@ public final class SheetBoundsTest {
     private static void writeAsManyAsItems() {
         DUE.by("promise 24", "1 for a BALL, else 0, as many as it has items for");
         for (int form = 0; form <= 2; form++) {
-            Boxes x = with(0, form, 5, -6, 7);
+            Boxes x = Boxes.withSheet(0, form, 5, -6, 7);
             x.set(0, true);
             x.set(2, true);
             x.set(3, true);
@@ -448,15 +437,15 @@ public final class SheetBoundsTest {
 
     private static void writeAsThereAreBoxes() {
         DUE.by("promise 24", "and as there are BOXES: how many");
-        Boxes x = with(0, 0, 5, 6, 7);
+        Boxes x = Boxes.withSheet(0, 0, 5, 6, 7);
         x.set(237, true);
         x.set(239, true);
         DUE.is("write(0, 237)", x.write(0, 237), 3);
         isSheet("write(0, 237)", x, 0, 0, 1, 0, 1);
-        fill(x, 0, 0, 5, 6, 7);
+        x.fill(0, 0, 5, 6, 7);
         DUE.is("write(0, 238)", x.write(0, 238), 2);
         isSheet("write(0, 238)", x, 0, 0, 0, 1, 7);
-        fill(x, 0, 0, 5, 6, 7);
+        x.fill(0, 0, 5, 6, 7);
         DUE.is("write(0, 239)", x.write(0, 239), 1);
         isSheet("write(0, 239)", x, 0, 0, 1, 6, 7);
         x.sheet(1, 2, 100);
@@ -470,7 +459,7 @@ public final class SheetBoundsTest {
 
     private static void writeFirstThatFits() {
         DUE.by("promise 24", "BAD; NULL");
-        Boxes x = with(0, 0, 5);
+        Boxes x = Boxes.withSheet(0, 0, 5);
         x.set(0, true);
         for (int s : NO_SHEETS) DUE.is("write(" + s + ", 0)", x.write(s, 0), BAD);
         for (int box : NO_BOXES) {
@@ -535,8 +524,8 @@ public final class SheetBoundsTest {
 
     private static void countOfFindings() {
         DUE.by("promise 25", "5 the number of the latest FINDING");
-        Boxes x = with(0, 0, 1);
-        fill(x, 1, 1, 1);
+        Boxes x = Boxes.withSheet(0, 0, 1);
+        x.fill(1, 1, 1);
         isFinding("NULL", x, x.lose(2), NULL);
         isFinding("INDEX", x, x.put(0, 0, 1, 1), INDEX);
         isFinding("CAST", x, x.put(0, 1, 0, 1), CAST);

@@ -27,17 +27,6 @@ public final class SheetTest {
         DUE.end();
     }
 
-    private static Boxes with(int s, int form, int... items) {
-        Boxes x = new Boxes();
-        fill(x, s, form, items);
-        return x;
-    }
-
-    private static void fill(Boxes x, int s, int form, int... items) {
-        DUE.is("sheet", x.sheet(s, form, items.length), items.length);
-        for (int i = 0; i < items.length; i++) DUE.is("put", x.put(s, form, i, items[i]), 1);
-    }
-
     private static void isSheet(String when, Boxes x, int s, int form, int... items) {
         for (int i = 0; i < items.length; i++) DUE.is(when + ": get " + i, x.get(s, form, i), items[i]);
         DUE.is(when + ": one too many", x.get(s, form, items.length), MIN);
@@ -69,21 +58,21 @@ public final class SheetTest {
     }
 
     private static void sheetIsNew() {
-        Boxes x = with(1, 2, 5, 6, 7);
+        Boxes x = Boxes.withSheet(1, 2, 5, 6, 7);
         DUE.is("a new one in its place", x.sheet(1, 2, 3), 3);
         isSheet("items are 0 again", x, 1, 2, 0, 0, 0);
-        fill(x, 1, 2, 5, 6, 7);
+        x.fill(1, 2, 5, 6, 7);
         DUE.is("shorter", x.sheet(1, 0, 1), 1);
         DUE.is("longer", x.sheet(1, 2, 3), 3);
         isSheet("items are 0 again", x, 1, 2, 0, 0, 0);
-        fill(x, 1, 2, 5, 6, 7);
+        x.fill(1, 2, 5, 6, 7);
         DUE.is("lost", x.lose(1), 3);
         DUE.is("anew", x.sheet(1, 2, 4), 4);
         isSheet("anew", x, 1, 2, 0, 0, 0, 0);
     }
 
     private static void lose() {
-        Boxes x = with(3, 1, 4, 5);
+        Boxes x = Boxes.withSheet(3, 1, 4, 5);
         DUE.is("lose(3)", x.lose(3), 2);
         DUE.is("lose(3) again", x.lose(3), -11);
         DUE.is("NULL", x.count(5), 1);
@@ -91,18 +80,18 @@ public final class SheetTest {
         DUE.is("lose of no items", x.lose(0), 0);
         DUE.is("and it is lost", x.lose(0), -11);
         for (int s : NO_SHEETS) DUE.is("lose(" + s + ")", x.lose(s), -2);
-        fill(x, 1, 0, 1);
-        fill(x, 2, 0, 2);
+        x.fill(1, 0, 1);
+        x.fill(2, 0, 2);
         x.lose(1);
         isSheet("others are not", x, 2, 0, 2);
     }
 
     private static void put() {
-        Boxes bytes = with(0, 0, 127, 128, 255, 256, -128, -129, MIN, MAX);
+        Boxes bytes = Boxes.withSheet(0, 0, 127, 128, 255, 256, -128, -129, MIN, MAX);
         isSheet("bytes", bytes, 0, 0, 127, -128, -1, 0, -128, 127, 0, -1);
-        Boxes shorts = with(1, 1, 32767, 32768, 65535, 65536, -32769, 70000, MIN, MAX);
+        Boxes shorts = Boxes.withSheet(1, 1, 32767, 32768, 65535, 65536, -32769, 70000, MIN, MAX);
         isSheet("shorts", shorts, 1, 1, 32767, -32768, -1, 0, 32767, 4464, 0, -1);
-        Boxes ints = with(2, 2, 32768, -65537, MIN, MAX, 0);
+        Boxes ints = Boxes.withSheet(2, 2, 32768, -65537, MIN, MAX, 0);
         isSheet("ints", ints, 2, 2, 32768, -65537, MIN, MAX, 0);
         DUE.is("over it", ints.put(2, 2, 4, 9), 1);
         isSheet("over it", ints, 2, 2, 32768, -65537, MIN, MAX, 9);
@@ -114,7 +103,7 @@ public final class SheetTest {
     }
 
     private static void putRefused() {
-        Boxes x = with(0, 1, 7);
+        Boxes x = Boxes.withSheet(0, 1, 7);
         for (int s : NO_SHEETS) DUE.is("put(" + s + ", 1, 0, 1)", x.put(s, 1, 0, 1), -2);
         for (int form : NO_FORMS) DUE.is("put(0, " + form + ", 0, 1)", x.put(0, form, 0, 1), -2);
         DUE.is("BAD ahead of NULL", x.put(1, 3, 0, 1), -2);
@@ -132,7 +121,7 @@ public final class SheetTest {
     }
 
     private static void get() {
-        Boxes x = with(0, 1, 7);
+        Boxes x = Boxes.withSheet(0, 1, 7);
         for (int s : NO_SHEETS) DUE.is("get(" + s + ", 1, 0)", x.get(s, 1, 0), MIN);
         for (int form : NO_FORMS) DUE.is("get(0, " + form + ", 0)", x.get(0, form, 0), MIN);
         DUE.is("BAD tells no finding", x.count(5), 0);
@@ -152,8 +141,8 @@ public final class SheetTest {
     }
 
     private static void copy() {
-        Boxes x = with(0, 2, 1, 2, 3, 4, 5);
-        fill(x, 1, 2, 9, 9, 9);
+        Boxes x = Boxes.withSheet(0, 2, 1, 2, 3, 4, 5);
+        x.fill(1, 2, 9, 9, 9);
         DUE.is("copy(0, 3, 1, 1, 2)", x.copy(0, 3, 1, 1, 2), 1);
         isSheet("target", x, 1, 2, 9, 4, 5);
         isSheet("source", x, 0, 2, 1, 2, 3, 4, 5);
@@ -161,17 +150,17 @@ public final class SheetTest {
         DUE.is("none at the ends", x.copy(0, 5, 1, 3, 0), 1);
         DUE.is("as many as there are", x.copy(0, 0, 1, 0, 3), 1);
         isSheet("target then", x, 1, 2, 1, 2, 3);
-        fill(x, 2, 0, -1, 2);
-        fill(x, 3, 0, 0, 0);
+        x.fill(2, 0, -1, 2);
+        x.fill(3, 0, 0, 0);
         DUE.is("bytes", x.copy(2, 0, 3, 0, 2), 1);
         isSheet("bytes", x, 3, 0, -1, 2);
     }
 
     private static void copyOverItself() {
-        Boxes x = with(0, 1, 1, 2, 3, 4, 5);
+        Boxes x = Boxes.withSheet(0, 1, 1, 2, 3, 4, 5);
         DUE.is("ahead", x.copy(0, 0, 0, 1, 4), 1);
         isSheet("ahead", x, 0, 1, 1, 1, 2, 3, 4);
-        fill(x, 0, 1, 1, 2, 3, 4, 5);
+        x.fill(0, 1, 1, 2, 3, 4, 5);
         DUE.is("back", x.copy(0, 1, 0, 0, 4), 1);
         isSheet("back", x, 0, 1, 2, 3, 4, 5, 5);
         DUE.is("in place", x.copy(0, 0, 0, 0, 5), 1);
@@ -179,9 +168,9 @@ public final class SheetTest {
     }
 
     private static void copyRefused() {
-        Boxes x = with(0, 2, 1, 2, 3);
-        fill(x, 1, 2, 7, 8);
-        fill(x, 2, 1, 4, 5);
+        Boxes x = Boxes.withSheet(0, 2, 1, 2, 3);
+        x.fill(1, 2, 7, 8);
+        x.fill(2, 1, 4, 5);
         for (int s : NO_SHEETS) {
             DUE.is("copy(" + s + ", 0, 1, 0, 1)", x.copy(s, 0, 1, 0, 1), -2);
             DUE.is("copy(0, 0, " + s + ", 0, 1)", x.copy(0, 0, s, 0, 1), -2);
@@ -210,7 +199,7 @@ public final class SheetTest {
     }
 
     private static void load() {
-        Boxes x = with(0, 2, 1, 0, -1, MAX, MIN, 2);
+        Boxes x = Boxes.withSheet(0, 2, 1, 0, -1, MAX, MIN, 2);
         for (int k = 0; k < 240; k++) x.set(k, true);
         DUE.is("load(0, 10)", x.load(0, 10), 6);
         int[] due = {1, 1, 0, 0, 1, 0, 1, 1};
@@ -245,17 +234,17 @@ public final class SheetTest {
 
     private static void write() {
         for (int form = 0; form < 3; form++) {
-            Boxes x = with(0, form, 5, 6, 7, 8);
+            Boxes x = Boxes.withSheet(0, form, 5, 6, 7, 8);
             for (int k : new int[] {2, 3, 5, 237, 239}) x.set(k, true);
             DUE.is("write(0, 2)", x.write(0, 2), 4);
             isSheet("write(0, 2)", x, 0, form, 1, 1, 0, 1);
-            fill(x, 0, form, 5, 6, 7, 8);
+            x.fill(0, form, 5, 6, 7, 8);
             DUE.is("write(0, 237)", x.write(0, 237), 3);
             isSheet("write(0, 237)", x, 0, form, 1, 0, 1, 8);
             DUE.is("write(0, 239)", x.write(0, 239), 1);
             DUE.is("the row stays", x.row(0), 5);
         }
-        Boxes x = with(0, 0, 5);
+        Boxes x = Boxes.withSheet(0, 0, 5);
         for (int s : NO_SHEETS) DUE.is("write(" + s + ", 0)", x.write(s, 0), -2);
         for (int box : NO_BOXES) DUE.is("write(0, " + box + ")", x.write(0, box), -2);
         DUE.is("BAD ahead of NULL", x.write(1, -1), -2);
@@ -271,7 +260,7 @@ public final class SheetTest {
     }
 
     private static void findings() {
-        Boxes x = with(0, 0, 1);
+        Boxes x = Boxes.withSheet(0, 0, 1);
         DUE.is("digest has no findings", digestOf(x), x.digest());
         long before = x.digest();
         x.lose(1);

@@ -96,7 +96,8 @@ public final class StringsBoundsTest {
         DUE.by("promise 10", "how many");
         Boxes all = Boxes.of("1".repeat(240));
         isStrings("all", all, 240, 1, "240 -240 -240; ");
-        isStrings("all", all, 239, 1, "239 -239 -239; ");
+        isStrings("all again", all, 240, 1, "240 -240 -240; ");
+        isStrings("all but one", all, 239, 1, "239 -239 -239; ");
         isStrings("every other", Boxes.of("10".repeat(120)), 240, 120, "1 -1 0; ".repeat(120));
     }
 
