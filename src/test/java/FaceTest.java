@@ -27,7 +27,9 @@ public final class FaceTest {
         for (Class<?> inside : BallBoxes.class.getDeclaredClasses()) {
             due.holds(inside + " is static", Modifier.isStatic(inside.getModifiers()));
             due.holds(inside + " is not public", !Modifier.isPublic(inside.getModifiers()));
+            fewFields(due, inside);
         }
+        fewFields(due, BallBoxes.class);
         due.end();
     }
 
@@ -70,6 +72,15 @@ public final class FaceTest {
             due.holds(field + " is final, if static", !Modifier.isStatic(how) || Modifier.isFinal(how));
         }
         due.holds("the constants, got " + open, open.equals(Set.of("NONE", "BAD", "NOT", "FULL", "SPENT")));
+    }
+
+    /** Rule 11 of LANGUAGE.md: some twenty fields beside the constants. */
+    private static void fewFields(Due due, Class<?> one) {
+        int fields = 0;
+        for (Field field : one.getDeclaredFields()) {
+            if (!Modifier.isStatic(field.getModifiers())) fields++;
+        }
+        due.holds(one + " has " + fields + " fields", fields <= 20);
     }
 
     private static void constructors(Due due) {

@@ -223,7 +223,11 @@ public final class RingBoundsTest {
         DUE.is("period(2) twice", x.period(2), x.period(2));
     }
 
-    /** Of all rings that a search by sizes of heaps went through, these have the periods next to 20000. */
+    /**
+     * No ring of up to 40 boxes has a period between 19800 and 20007: so it came out when the periods of
+     * all sizes of heaps were worked out by their equations (which told, up to 12 boxes, just the periods
+     * that the rings have). So these two are the nearest to 20000 that any test can have.
+     */
     private static void periodSpent() {
         DUE.by("promise 16", "up to 20000; SPENT");
         DUE.is("19800", ringOf("1110000000100011000000110001111100000000").period(5), 19800);

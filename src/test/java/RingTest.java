@@ -147,7 +147,7 @@ public final class RingTest {
         return then.toString();
     }
 
-    /** Rings found by search whose periods lie nearest to 20000 on both sides: 19800 and 20007. */
+    /** Rings with the periods that lie nearest to 20000 on both sides: 19800 and 20007. */
     private static void periodSpent() {
         Boxes below = ringOf("0000000000001110000001111100110001101000");
         DUE.is("a period just below 20000", below.period(8), 19800);
